@@ -101,6 +101,10 @@ final class Check {
     /** The RESULT as -7/3, with a * and the powers behind it if one is not 0, as in 5/1*0,1. */
     static String result(MeasureBook book) {
         StringBuilder text = new StringBuilder(book.sign() < 0 ? "-" : "");
+        boolean zero = book.digits(0) == 1 && book.digit(0, 0) == 0;
+        if (zero != (book.sign() == 0)) {
+            text.append("a wrong sign: ");
+        }
         for (int part = 0; part < 2; part++) {
             for (int i = book.digits(part) - 1; i >= 0; i--) {
                 text.append(book.digit(part, i));

@@ -209,6 +209,11 @@ public final class PromiseTests {
         Check.due("the FAULT of a PREFIX ends it", x.faultOf(6), Check.UNKNOWN);
         Check.due("MIXED ends it", x.faultOf(7), Check.MIXED);
         Check.refuses(x, "nn 3", Check.ENDLESS, 6);
+        MeasureBook y = new MeasureBook(64);
+        Check.defines(y, "b- nn\nq br\nr q", 3);
+        Check.due("what is behind a PREFIX with a FAULT is not reckoned", y.faultOf(1), Check.UNKNOWN);
+        Check.due("nor is it here", y.faultOf(2), Check.UNKNOWN);
+        Check.refuses(y, "nn 1", Check.ENDLESS, 1);
         StringBuilder chain = new StringBuilder();
         for (int i = 0; i < 92; i++) {
             chain.append("n").append(i).append(" (1+(1+n").append(i + 1).append("))\n");
