@@ -542,19 +542,10 @@ public final class MeasureBook {
             return true;
         }
 
-        boolean addPowers(Value other, int times) {
+        /** Answers false as soon as a POWER is beyond its bounds; the others may be as they were then. */
+        boolean combinePowers(int times, Value other, int otherTimes) {
             for (int i = 0; i < MOST_BASES; i++) {
-                powers[i] += times * other.powers[i];
-                if (powers[i] < -MOST_POWER || powers[i] > MOST_POWER) {
-                    return false;
-                }
-            }
-            return true;
-        }
-
-        boolean multiplyPowers(int times) {
-            for (int i = 0; i < MOST_BASES; i++) {
-                powers[i] *= times;
+                powers[i] = times * powers[i] + otherTimes * other.powers[i];
                 if (powers[i] < -MOST_POWER || powers[i] > MOST_POWER) {
                     return false;
                 }
@@ -635,7 +626,7 @@ public final class MeasureBook {
         }
 
         int multiply(Value a, Value b) {
-            if (!a.addPowers(b, 1)) {
+            if (!a.combinePowers(1, b, 1)) {
                 return POWERS;
             }
             top.setProduct(a.top, b.top);
@@ -648,7 +639,7 @@ public final class MeasureBook {
             if (b.sign == 0) {
                 return ZERO;
             }
-            if (!a.addPowers(b, -1)) {
+            if (!a.combinePowers(1, b, -1)) {
                 return POWERS;
             }
             top.setProduct(a.top, b.bottom);
@@ -661,7 +652,7 @@ public final class MeasureBook {
             if (a.sign == 0 && n < 0) {
                 return ZERO;
             }
-            if (!a.multiplyPowers(n)) {
+            if (!a.combinePowers(n, a, 0)) {
                 return POWERS;
             }
             int times = Math.abs(n);

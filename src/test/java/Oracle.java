@@ -276,6 +276,12 @@ final class Oracle {
         }
     }
 
+    /** In the form of Check.result. */
+    String result() {
+        String powers = Arrays.toString(result.powers).replaceAll("[\\[\\] ]", "").replaceFirst("(^0|,0)(,0)*$", "");
+        return result.above + "/" + result.below + (powers.isEmpty() ? "" : "*" + powers);
+    }
+
     private String takeTape() {
         String whole = tape.toString();
         tape = new StringBuilder();

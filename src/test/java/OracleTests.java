@@ -155,28 +155,10 @@ public final class OracleTests {
             // The queries change nothing, so that they need not count against the 512.
             calls -= 11;
         }
-        if (!Check.result(book).equals(result())) {
-            Check.shows(book, "run " + run + ", call " + calls, result());
+        if (!Check.result(book).equals(oracle.result())) {
+            Check.shows(book, "run " + run + ", call " + calls, oracle.result());
             bad = true;
         }
-    }
-
-    private String result() {
-        StringBuilder text = new StringBuilder(oracle.sign() < 0 ? "-" : "");
-        for (int part = 0; part < 2; part++) {
-            for (int i = oracle.digits(part) - 1; i >= 0; i--) {
-                text.append(oracle.digit(part, i));
-            }
-            text.append(part == 0 ? "/" : "");
-        }
-        int last = 7;
-        while (last >= 0 && oracle.power(last) == 0) {
-            last--;
-        }
-        for (int base = 0; base <= last; base++) {
-            text.append(base == 0 ? "*" : ",").append(oracle.power(base));
-        }
-        return text.toString();
     }
 
     private String noisy(String plain) {
