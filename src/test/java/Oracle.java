@@ -276,7 +276,7 @@ final class Oracle {
         }
     }
 
-    /** In the form of Check.result. */
+    /** In the form of Run.result. */
     String result() {
         String powers = Arrays.toString(result.powers).replaceAll("[\\[\\] ]", "").replaceFirst("(^0|,0)(,0)*$", "");
         return result.above + "/" + result.below + (powers.isEmpty() ? "" : "*" + powers);

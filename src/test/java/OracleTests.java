@@ -2,7 +2,6 @@ import java.nio.charset.StandardCharsets;
 
 /** Many runs of calls, made up by a fixed rule, on the program and on the oracle side by side. */
 public final class OracleTests {
-    private static final int CALLS = 512;
     private static final int[] BITS = {16, 17, 29, 30, 31, 60, 61, 64, 100, 200, 333, 511, 512};
     private static final String[] NAMES = {
         "m", "s", "a", "as", "ss", "k", "ka", "kas", "km", "kms", "mm", "b", "c", "d", "e", "e3", "kk", "kkm", "ks",
@@ -24,10 +23,9 @@ public final class OracleTests {
     };
 
     private long seed;
-    private MeasureBook book;
+    private Run book;
     private Oracle oracle;
-    private int run;
-    private int calls;
+    private final int run;
     private boolean bad;
 
     private OracleTests(int run) {
@@ -36,7 +34,7 @@ public final class OracleTests {
     }
 
     public static void main(String[] args) {
-        int runs = args.length > 0 ? Integer.parseInt(args[0]) : 500;
+        int runs = args.length > 0 ? Integer.parseInt(args[0]) : 1500;
         int from = args.length > 1 ? Integer.parseInt(args[1]) : 0;
         int[] faults = new int[10];
         for (int run = from; run < from + runs; run++) {
@@ -61,44 +59,58 @@ public final class OracleTests {
     }
 
     private void same(String call, int got, int want) {
-        calls++;
         if (got != want) {
             bad = true;
-            Check.due("run " + run + ", call " + calls + ": " + call, got, want);
+            Check.due("run " + run + ", call " + book.calls() + ": " + call, got, want);
         }
+    }
+
+    /** Whether so many calls more stay within those that the document promises something of. */
+    private boolean fits(int calls) {
+        return book.calls() + calls <= Run.MOST_CALLS;
     }
 
     private void go(int[] faults) {
         int bits = BITS[pick(BITS.length)];
-        book = new MeasureBook(bits);
+        book = new Run(bits);
         oracle = new Oracle(bits);
-        while (calls < CALLS && !bad) {
+        boolean full = false;
+        while (!full && !bad) {
             int act = pick(12);
             if (act < 4 || oracle.told(1) < 4) {
-                text(file(), "define");
+                full = !text(file(), "define");
             } else if (act < 8) {
-                text(expr(3), "reckon");
+                full = !text(expr(3), "reckon");
             } else if (act < 10) {
-                text(expr(2) + ">" + expr(2), "turn");
+                full = !text(expr(2) + ">" + expr(2), "turn");
             } else {
                 int n = pick(8) == 0 ? pick(oracle.told(1) + 3) - 1 : pick(3);
-                same("forget(" + n + ")", book.forget(n), oracle.forget(n));
+                full = !fits(1);
+                if (!full) {
+                    same("forget(" + n + ")", book.forget(n), oracle.forget(n));
+                }
             }
             faults[oracle.fault()]++;
-            ask();
+            for (int i = 0; i < 3 && fits(1); i++) {
+                ask(pick(11));
+            }
+            if (pick(3) == 0) {
+                compareResults();
+            }
         }
     }
 
     /** Long divisions whose limbs are such that a first guess at a limb of the quotient is too high. */
     private void divide() {
-        book = new MeasureBook(512);
-        oracle = new Oracle(512);
-        for (int i = 0; i < 3; i++) {
-            text("(" + limbs(1 + pick(16)) + ") / (" + limbs(2 + pick(15)) + ")", "reckon", false);
-            ask();
+        for (int i = 0; i < 4; i++) {
+            book = new Run(512);
+            oracle = new Oracle(512);
+            String text = i < 3 ? "(" + limbs(1 + pick(16)) + ") / (" + limbs(2 + pick(15)) + ")"
+                : limbs(9) + " > " + limbs(1 + pick(9));
+            text(text, i < 3 ? "reckon" : "turn", false);
+            ask(4);
+            compareResults();
         }
-        text(limbs(9) + " > " + limbs(1 + pick(9)), "turn", false);
-        ask();
     }
 
     private String limbs(int count) {
@@ -110,13 +122,17 @@ public final class OracleTests {
         return text.toString();
     }
 
-    private void text(String plain, String act) {
-        text(plain, act, pick(4) == 0);
+    private boolean text(String plain, String act) {
+        return text(plain, act, pick(4) == 0);
     }
 
-    private void text(String plain, String act, boolean withNoise) {
+    /** Answers false, and does nothing, if there are not calls enough left for it. */
+    private boolean text(String plain, String act, boolean withNoise) {
         String text = withNoise ? noisy(plain) : plain;
         byte[] bytes = text.getBytes(StandardCharsets.ISO_8859_1);
+        if (!fits(bytes.length / 20 + 4)) {
+            return false;
+        }
         for (int at = 0; at < bytes.length; at += 20) {
             int[] five = new int[5];
             for (int i = 0; i < 5; i++) {
@@ -125,7 +141,7 @@ public final class OracleTests {
             same("feed", book.feed(five[0], five[1], five[2], five[3], five[4]), oracle.feed(five));
         }
         same("cut", book.cut(bytes.length), oracle.cut(bytes.length));
-        String call = act + " \"" + text.replace("\n", "\\n") + "\"";
+        String call = act + " \"" + text + "\"";
         if (act.equals("define")) {
             same(call, book.define(), oracle.define());
         } else if (act.equals("reckon")) {
@@ -134,29 +150,31 @@ public final class OracleTests {
             same(call, book.turn(), oracle.turn());
         }
         same("fault after " + call, book.fault(), oracle.fault());
+        return true;
     }
 
-    private void ask() {
-        for (int i = 0; i < 6; i++) {
-            int n = pick(20) == 0 ? pick(9) - 4 : pick(3);
-            int k = pick(40) - 1;
-            same("sign", book.sign(), oracle.sign());
-            same("power(" + n + ")", book.power(n), oracle.power(n));
-            same("digits(" + n + ")", book.digits(n), oracle.digits(n));
-            same("digit(" + n + ", " + k + ")", book.digit(n, k), oracle.digit(n, k));
-            int far = pick(310) - 3;
-            same("point(" + far + ")", book.point(far), oracle.point(far));
-            same("ends(" + n + ")", book.ends(n), oracle.ends(n));
-            same("alike(" + n + ")", book.alike(n), oracle.alike(n));
-            same("sort(" + k + ")", book.sort(k), oracle.sort(k));
-            same("faultOf(" + k + ")", book.faultOf(k), oracle.faultOf(k));
-            same("name(" + k + ", " + n + ")", book.name(k, n), oracle.name(k, n));
-            same("told(" + n + ")", book.told(n), oracle.told(n));
-            // The queries change nothing, so that they need not count against the 512.
-            calls -= 11;
+    private void ask(int what) {
+        int n = pick(20) == 0 ? pick(9) - 4 : pick(3);
+        int k = pick(40) - 1;
+        int far = pick(310) - 3;
+        switch (what) {
+            case 0 -> same("sign", book.sign(), oracle.sign());
+            case 1 -> same("power(" + n + ")", book.power(n), oracle.power(n));
+            case 2 -> same("digits(" + n + ")", book.digits(n), oracle.digits(n));
+            case 3 -> same("digit(" + n + ", " + k + ")", book.digit(n, k), oracle.digit(n, k));
+            case 4 -> same("point(" + far + ")", book.point(far), oracle.point(far));
+            case 5 -> same("ends(" + n + ")", book.ends(n), oracle.ends(n));
+            case 6 -> same("alike(" + n + ")", book.alike(n), oracle.alike(n));
+            case 7 -> same("sort(" + k + ")", book.sort(k), oracle.sort(k));
+            case 8 -> same("faultOf(" + k + ")", book.faultOf(k), oracle.faultOf(k));
+            case 9 -> same("name(" + k + ", " + n + ")", book.name(k, n), oracle.name(k, n));
+            default -> same("told(" + n + ")", book.told(n), oracle.told(n));
         }
-        if (!Check.result(book).equals(oracle.result())) {
-            Check.shows(book, "run " + run + ", call " + calls, oracle.result());
+    }
+
+    private void compareResults() {
+        if (fits(oracle.digits(0) + oracle.digits(1) + 20) && !book.result().equals(oracle.result())) {
+            Check.wrong("run " + run + ", call " + book.calls() + ": the RESULT is not " + oracle.result());
             bad = true;
         }
     }

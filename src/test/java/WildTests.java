@@ -1,4 +1,5 @@
 import java.lang.management.ManagementFactory;
+import java.nio.charset.StandardCharsets;
 
 /** Calls without sense, also beyond the 512th: none may throw, and none may make more than it needs. */
 public final class WildTests {
@@ -40,6 +41,17 @@ public final class WildTests {
         }
     }
 
+    /** Puts a text behind what is on the TAPE, as much of it as there is room for. */
+    private static void feed(MeasureBook x, String text) {
+        byte[] bytes = text.getBytes(StandardCharsets.ISO_8859_1);
+        int before = x.told(0);
+        for (int at = 0; at < bytes.length; at += 20) {
+            x.feed(Check.four(bytes, at), Check.four(bytes, at + 4), Check.four(bytes, at + 8),
+                Check.four(bytes, at + 12), Check.four(bytes, at + 16));
+        }
+        x.cut(before + bytes.length);
+    }
+
     private void call(MeasureBook x, int which) {
         switch (which) {
             case 0 -> x.feed(odd(), pick(1 << 30), odd(), odd() * 77777, odd());
@@ -60,7 +72,7 @@ public final class WildTests {
             case 15 -> x.faultOf(odd());
             case 16 -> x.name(odd(), odd());
             case 17 -> x.told(odd());
-            default -> Check.feed(x, DENSE[pick(DENSE.length)].replace("%d", String.valueOf(pick(40))) + "\n");
+            default -> feed(x, DENSE[pick(DENSE.length)].replace("%d", String.valueOf(pick(40))) + "\n");
         }
     }
 
@@ -72,7 +84,7 @@ public final class WildTests {
             while (text.length() < 3900) {
                 text.append(more);
             }
-            Check.feed(x, text + (pick(2) == 0 ? "" : "1"));
+            feed(x, text + (pick(2) == 0 ? "" : "1"));
             call(x, pick(2) == 0 ? 2 : 4 + pick(2));
             for (int what = 6; what < 18; what++) {
                 call(x, what);
@@ -82,41 +94,60 @@ public final class WildTests {
 
     /** Each waits for the next one from within as many ( as there may be. */
     private void deepChain() {
-        MeasureBook x = new MeasureBook(512);
+        Run x = new Run(512);
         String open = "1+1*1(".repeat(12);
         String close = ")".repeat(12);
+        StringBuilder part = new StringBuilder();
         for (int i = 98; i >= 0; i--) {
             String line = "n" + i + " " + open + (i == 98 ? "0" : "n" + (i + 1)) + close + "\n";
-            if (x.told(0) + line.length() > 3900) {
-                Check.due("a part of the chain comes", x.define() > 0 ? 1 : 0, 1);
+            if (part.length() + line.length() > 4000) {
+                x.put(part.toString());
+                Check.holds("a part of the chain comes", x.define() > 0);
+                part.setLength(0);
             }
-            Check.feed(x, line);
+            part.append(line);
         }
-        Check.due("the last part of the chain comes", x.define() > 0 ? 1 : 0, 1);
-        Check.reckons(x, "n0", 99 * 12 + "/1");
-        MeasureBook y = new MeasureBook(512);
+        x.put(part.toString());
+        Check.holds("the last part of the chain comes", x.define() > 0);
+        x.reckons("n0", 99 * 12 + "/1");
+        Run y = new Run(512);
+        y.defines(fullChain(), 100);
+        y.reckons("n0", 99 * 2 + 7 + "/1");
+    }
+
+    /** Each of 100 waits for the next one, so that all of them are open at once. */
+    private static String fullChain() {
         StringBuilder file = new StringBuilder();
         for (int i = 0; i < 99; i++) {
             file.append("n").append(i).append(" 1+1*1(1+1*1(n").append(i + 1).append("))\n");
         }
-        Check.defines(y, file + "n99 7", 100);
-        Check.reckons(y, "n0", 99 * 2 + 7 + "/1");
+        return file + "n99 7";
     }
 
-    /** A run's 512 calls must fit in a room of 7.3 million fields and elements. */
+    /**
+     * A run's calls must fit in a room of 7.3 million fields and elements; each of these takes a byte or
+     * more, so that as many bytes are fewer of them.
+     */
     private void room() {
         com.sun.management.ThreadMXBean bean = (com.sun.management.ThreadMXBean) ManagementFactory.getThreadMXBean();
+        byte[] chain = fullChain().getBytes(StandardCharsets.ISO_8859_1);
         long start = bean.getCurrentThreadAllocatedBytes();
         MeasureBook x = new MeasureBook(512);
-        for (int i = 0; i < 512; i++) {
+        for (int at = 0; at < chain.length; at += 20) {
+            x.feed(Check.four(chain, at), Check.four(chain, at + 4), Check.four(chain, at + 8),
+                Check.four(chain, at + 12), Check.four(chain, at + 16));
+        }
+        Check.due("define", x.define(), 100);
+        x.forget(1);
+        for (int i = 0; i < 60; i++) {
             x.feed(0x61612031, 0x7C33202B, 0x2837202A, 0x20322F33, 0x29200A20);
-            int ignored = i % 3 == 0 ? x.define() : i % 3 == 1 ? x.reckon() : x.forget(i % 2);
+            int answer = i % 3 == 0 ? x.define() : i % 3 == 1 ? x.reckon() : x.forget(i % 2);
             x.point(300);
             x.digit(0, i);
             x.ends(2);
-            x.alike(ignored);
+            x.alike(answer);
         }
         long bytes = bean.getCurrentThreadAllocatedBytes() - start;
-        Check.due("bytes made: " + bytes, bytes < 1_000_000 ? 1 : 0, 1);
+        Check.holds("a run makes less than 7,300,000 bytes: " + bytes, bytes < 7_300_000);
     }
 }
