@@ -92,14 +92,13 @@ public final class WildTests {
         }
     }
 
-    /** Each waits for the next one from within as many ( as there may be. */
+    /** Each waits for the next one, which comes later, from within as many ( as there may be. */
     private void deepChain() {
         Run x = new Run(512);
-        String open = "1+1*1(".repeat(12);
-        String close = ")".repeat(12);
         StringBuilder part = new StringBuilder();
-        for (int i = 98; i >= 0; i--) {
-            String line = "n" + i + " " + open + (i == 98 ? "0" : "n" + (i + 1)) + close + "\n";
+        for (int i = 0; i < 64; i++) {
+            String next = i == 63 ? "0" : "n" + (i + 1);
+            String line = "n" + i + " " + "1+1*1(".repeat(20) + next + ")".repeat(20) + "\n";
             if (part.length() + line.length() > 4000) {
                 x.put(part.toString());
                 Check.holds("a part of the chain comes", x.define() > 0);
@@ -109,7 +108,7 @@ public final class WildTests {
         }
         x.put(part.toString());
         Check.holds("the last part of the chain comes", x.define() > 0);
-        x.reckons("n0", 99 * 12 + "/1");
+        x.reckons("n0", 64 * 20 + "/1");
         Run y = new Run(512);
         y.defines(fullChain(), 100);
         y.reckons("n0", 99 * 2 + 7 + "/1");
