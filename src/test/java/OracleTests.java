@@ -27,9 +27,13 @@ public final class OracleTests {
     private Oracle oracle;
     private final int run;
     private boolean bad;
+    /** Whether many DEFINITIONS come in one FILE, so that the book has 100 before the calls are at an end. */
+    private final boolean filling;
+    private int made;
 
     private OracleTests(int run) {
         this.run = run;
+        filling = run % 4 == 0;
         seed = run * 7919L + 17;
     }
 
@@ -155,7 +159,7 @@ public final class OracleTests {
 
     private void ask(int what) {
         int n = pick(20) == 0 ? pick(9) - 4 : pick(3);
-        int k = pick(40) - 1;
+        int k = pick(pick(3) == 0 ? 160 : 40) - 1;
         int far = pick(310) - 3;
         switch (what) {
             case 0 -> same("sign", book.sign(), oracle.sign());
@@ -191,10 +195,10 @@ public final class OracleTests {
 
     private String file() {
         StringBuilder lines = new StringBuilder();
-        for (int count = pick(5); count >= 0; count--) {
-            String name = newName();
+        for (int count = pick(filling ? 20 : 5); count >= 0; count--) {
+            String name = filling && pick(100) > 0 ? pick(NAMES) + "_" + made++ : newName();
             int sort = pick(10);
-            if (sort < (oracle.told(1) < 4 ? 5 : 2)) {
+            if (sort < (oracle.told(1) < 4 ? 5 : filling && pick(8) > 0 ? 0 : 2)) {
                 lines.append(name).append(blank()).append("!");
             } else if (sort == 5) {
                 // The first one is ENDLESS as soon as the second one is forgotten.
@@ -229,7 +233,8 @@ public final class OracleTests {
         if (pick(4) > 0) {
             return one;
         }
-        String n = String.valueOf(pick(4) == 0 ? pick(101) : pick(4));
+        int kind = pick(8);
+        String n = String.valueOf(kind == 0 ? pick(101) : kind == 1 ? 33 * (1 + pick(3)) : pick(4));
         return one + blank() + "^" + (pick(3) == 0 ? "-" : "") + blank() + n;
     }
 
